@@ -1217,7 +1217,6 @@ public final class WaterPatience {
         private void clear() {
             table.clear();
             plan.clear();
-            plan.there = false;
             fields = 0;
             today = 0;
         }
@@ -1767,11 +1766,13 @@ public final class WaterPatience {
         private final int[] code = new int[LINES * PARTS];
         private int lines;
         private int steps;
+        /** Seasons without steps are there, too, once such a text was taken. */
         private boolean there;
 
         private void clear() {
             lines = 0;
             steps = 0;
+            there = false;
         }
 
         private void copyFrom(Seasons other) {

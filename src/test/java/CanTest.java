@@ -32,6 +32,7 @@ public final class CanTest {
         x.deal();
         int[] want = {1, 2, 7, 12, 62};
         due.good("moves", x.moves(), x, want.length);
+        due.good("nothing else was asked ahead", movesToRow0(), x, 10);
         for (int k = 0; k < want.length; k++) {
             due.good("moveAt(" + k + ")", x.moveAt(k), x, want[k]);
         }
@@ -43,7 +44,13 @@ public final class CanTest {
         due.refused("not even the first", y.moveAt(0), y, 8);
     }
 
+    private static int movesToRow0() {
+        return Due.with("suit a;row;row a 1;").moveAt(0);
+    }
+
     private static void promises32and33() {
+        WaterPatience fresh = Due.with(Due.VALLEY);
+        due.good("clubs at once", fresh.runWater(1), fresh, 3);
         WaterPatience x = Due.with(Due.VALLEY);
         due.good("runs", x.runs(), x, 5);
         due.good("hearts", x.runWater(0), x, 6);
@@ -93,6 +100,8 @@ public final class CanTest {
         due.good("of several the first", x.easiest(), x, 1);
         WaterPatience y = Due.with("suit a;suit b;suit c;row a 2;stock b 2 b 3 b 1 c 1;");
         due.good("only those that have one", y.easiest(), y, 1);
+        WaterPatience first = Due.with("suit a;suit b;row a 1;row b 1 b 2;");
+        due.good("the first suit", first.easiest(), first, 0);
         WaterPatience z = Due.with("suit a;row a 2;");
         due.refused("none has", z.easiest(), z, 8);
         WaterPatience w = Due.with("ranks 1;suit a;row a 1;");
@@ -124,6 +133,7 @@ public final class CanTest {
         due.refused("none does", x.thirstiest(), x, 8);
         WaterPatience y = Due.with("suit a;field f of a dries 5;");
         due.good("10 by 5", y.wilts(0), y, 3);
+        due.good("the only one", y.thirstiest(), y, 0);
         due.good("lives for two", y.day(2), y, 1);
         due.good("not for three", y.day(1), y, 0);
     }

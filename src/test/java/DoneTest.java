@@ -93,6 +93,22 @@ public final class DoneTest {
         x.deal();
         x.deal();
         due.refused("none left", x.deal(), x, 9);
+        StringBuilder all = new StringBuilder("ranks 6;redeals 1;suit a;suit b;suit c;suit d;row;stock");
+        for (int card = 0; card < 24; card++) {
+            all.append(' ').append((char) ('a' + card / 6)).append(' ').append(card % 6 + 1);
+        }
+        WaterPatience w = Due.with(all + ";");
+        for (int card = 0; card < 24; card++) {
+            due.good("all cards", w.deal(), w, card);
+        }
+        due.good("the last lies on top", w.topOf(6), w, 23);
+        due.good("all become the stock", w.deal(), w, -1);
+        due.good("24", w.many(7), w, 24);
+        due.good("a 1", w.deal(), w, 0);
+        for (int card = 1; card < 24; card++) {
+            w.deal();
+        }
+        due.good("it can be moved", w.move(6, 0), w, 23);
         WaterPatience y = Due.with("suit a;redeals 2;row;stock a 1;");
         y.deal();
         y.move(6, 7);
@@ -173,6 +189,8 @@ public final class DoneTest {
         due.refused("3", x.rule(3), x, 5);
         due.refused("-1", x.rule(-1), x, 5);
         due.good("LAW", x.many(2), x, 2);
+        due.good("rule", x.rule(0), x);
+        due.good("LAW", x.many(2), x, 0);
     }
 
     private static void promise27() {
@@ -233,6 +251,10 @@ public final class DoneTest {
         due.good("row 1", y.length(1), y, 2);
         due.good("row 2", y.length(2), y, 1);
         due.good("row 3", y.length(3), y, 0);
+        WaterPatience dealt = Due.with("suit a;row;stock a 3 a 2;");
+        dealt.deal();
+        due.good("behind a deal", dealt.shuffle(7), dealt, 4);
+        due.good("all but one are in the stock", dealt.many(7), dealt, 3);
         WaterPatience z = Due.with("suit a;");
         due.good("no rows", z.shuffle(0), z, 4);
         due.good("all in the stock", z.many(7), z, 4);

@@ -125,6 +125,12 @@ public final class PacksTest {
         }
         due.good("like", x.like(2, 10, 50), x, many);
         due.good("likeFirst", x.likeFirst(2, 10, 50), x, first);
+        due.refused("not as far as the first", x.likeFirst(2, first - 3, 3), x, 8);
+        for (int suit = 0; suit < 3; suit++) {
+            x.write(2, suit, told[suit] + 1);
+            due.refused("unlike in suit " + suit, x.likeFirst(2, 33, 1), x, 8);
+            x.write(2, suit, told[suit]);
+        }
         x.write(2, 2, 100);
         due.good("none", x.like(2, 10, 50), x, 0);
         due.refused("no first", x.likeFirst(2, 10, 50), x, 8);

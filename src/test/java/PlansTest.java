@@ -57,6 +57,11 @@ public final class PlansTest {
         due.good("forced again, then it is over", y.game(1, 3), y, -3);
         due.good("NONE is told by STATUS", y.game(1, 1), y, -1);
         due.refused("with 5", y.game(4, 1), y, 5);
+        // behind a 1 the second won't lay b 1 home, which would free a 2
+        WaterPatience w = Due.with("suit a;suit b;row;row a 2 b 1;row b 3 a 1;");
+        due.good("the second waits", w.game(1, 3), w, 1);
+        WaterPatience v = Due.with("suit a;suit b;row b 1;row a 2;row a 1;");
+        due.good("a 1, b 1, a 2", v.game(1, 3), v, 2);
         WaterPatience z = Due.with("suit a;row a 2;");
         due.good("no move: it is over at once", z.game(1, 3), z, 0);
     }
@@ -79,6 +84,13 @@ public final class PlansTest {
         due.good("nothing better", y.cheat(0), y, 6);
         due.refused("nothing is changed", y.cheatAt(0, 0), y, 8);
         due.refused("nothing is changed", y.cheatAt(0, 1), y, 8);
+        WaterPatience fresh = Due.with("suit a;suit b;row b 4;row a 1 b 2;row b 3;");
+        due.good("asked at once", fresh.cheatAt(0, 1), fresh, 100);
+        due.refused("of b there is nothing", fresh.cheatAt(1, 1), fresh, 8);
+        due.refused("nor a lesser one", fresh.cheatAt(1, 0), fresh, 8);
+        WaterPatience both = Due.with("suit a;suit b;row;row b 3 b 4;row a 1 b 2;");
+        due.good("lesser in row 1", both.cheatAt(0, 0), both, 101);
+        due.good("other in row 2", both.cheatAt(0, 1), both, 200);
         WaterPatience z = Due.with("suit a;suit b;row b 4;row a 1 b 2;row b 3;");
         due.good("across rows", z.cheat(0), z, 1);
         due.good("the first couple", z.cheatAt(0, 0), z, 0);

@@ -32,8 +32,8 @@ public final class SeasonsTest {
 
     private static void tests() {
         String[] tests = {"home clubs = 0", "home clubs < 1", "home clubs > 0", "water oat = 5", "water oat < 5",
-            "water oat > 4", "water bean > 96", "stuck"};
-        boolean[] want = {true, true, false, true, false, true, true, false};
+            "water oat > 4", "water bean > 96", "stuck", "home hearts = 0", "home hearts > 0"};
+        boolean[] want = {true, true, false, true, false, true, true, false, true, false};
         for (int i = 0; i < tests.length; i++) {
             WaterPatience x = Due.with(Due.VALLEY, "when " + tests[i] + "; day 1; end; deal;");
             due.good("steps by " + tests[i], x.live(0), x, want[i] ? 3 : 2);
@@ -65,6 +65,9 @@ public final class SeasonsTest {
         WaterPatience v = Due.with(valley, "loop 2; loop 99; end; end; stop; day 1;");
         due.good("empty loops end", v.live(0), v, 4);
         due.good("behind a stop nothing is left to be done", v.lived(4), v, 0);
+        WaterPatience t = Due.with(valley, Due.times("loop1;end;", 30));
+        due.good("30 loops in 300 bytes", t.live(0), t, 30);
+        due.good("nothing left", t.lived(4), t, 0);
         WaterPatience u = Due.with(valley, "loop 5; when water f = 10; day 1; when stuck; stop; end; end; end;");
         due.good("stop within", u.live(0), u, 5);
         due.good("days", u.many(6), u, 1);
@@ -109,6 +112,13 @@ public final class SeasonsTest {
         for (int what = 0; what < want.length; what++) {
             due.good("lived(" + what + ")", x.lived(what), x, want[what]);
         }
+        due.good("steps again", x.live(0), x, 9);
+        int[] again = {7, 4, 0, 0, 0};
+        for (int what = 0; what < want.length; what++) {
+            due.good("then lived(" + what + ")", x.lived(what), x, again[what]);
+        }
+        want = again;
+        cutBefore();
         x.live(-1);
         x.mean(0, 1);
         Due.valley(x, "suit a;");
@@ -117,6 +127,17 @@ public final class SeasonsTest {
             due.good("still lived(" + what + ")", x.lived(what), x, want[what]);
         }
         due.refused("lived(5)", x.lived(5), x, 5);
+    }
+
+    private static void cutBefore() {
+        WaterPatience x = Due.with("suit a;row a 1;", "loop 99; deal; deal; deal; deal; end;");
+        x.live(0);
+        due.good("cut", x.lived(4), x, 1);
+        Due.seasons(x, "any;");
+        due.good("one move is drawn, too", x.live(0), x, 1);
+        due.good("none missed", x.lived(0), x, 0);
+        due.good("home", x.lived(2), x, 1);
+        due.good("not cut", x.lived(4), x, 0);
     }
 
     /** Each any draws one of the moves that can be. */

@@ -55,6 +55,35 @@ public final class TextsTest {
         due.good("a new one", Due.valley(x, "suit c;"), x, 0);
         due.refused("has no seasons", x.live(0), x, 8);
         due.good("DAY 0", x.many(6), x, 0);
+        secondValley();
+    }
+
+    /** Nothing of a valley is left in the next, be it taken or not. */
+    private static void secondValley() {
+        WaterPatience x = Due.with("ranks 2;law 2;redeals 3;suit a red;row a 1;stock a 2;field f of a dries 20;");
+        x.run();
+        x.deal();
+        x.day(1);
+        due.is("withered", x.many(11), 1);
+        Due.valley(x, "ranks 3;law 1;redeals 2;suit a;suit b;row a 1;stock b 1;!");
+        due.good("another", Due.valley(x, "suit z;field f of z dries 1;"), x, 1);
+        int[] want = {4, 1, 0, 0, 0, 1, 0, 0, 0, 0, 0, 0, 0, 0};
+        for (int what = 0; what < want.length; what++) {
+            due.good("then many(" + what + ")", x.many(what), x, want[what]);
+        }
+        x.day(9);
+        x.day(9);
+        x.seasons(0);
+        x.mean(0, 1);
+        due.good("nor of what was lived on trial", Due.valley(x, "suit z;field f of z dries 1;"), x, 1);
+        due.good("DAY", x.many(6), x, 0);
+        due.good("not withered", x.many(11), x, 0);
+        due.good("all may be told again", Due.valley(x, "ranks 1;law 1;redeals 1;suit a;row a 1;"), x, 0);
+        due.good("and again", Due.valley(x, "ranks 1;law 1;redeals 1;suit a;row a 1;"), x, 0);
+        due.refused("not the field's name", Due.seasons(x, "when water f = 1; end;"), x, 10);
+        due.good("seasons behind ones that had no end", Due.seasons(x, "loop 1; end; loop 1; end;"), x, 2);
+        Due.seasons(x, "loop 1; loop 1;");
+        due.good("and again", Due.seasons(x, "deal;"), x, 1);
     }
 
     private static void tokens() {
@@ -193,8 +222,17 @@ public final class TextsTest {
         due.seasonsFault("", 0, -1);
         due.seasonsFault("day 1;move 0 7;move 6 0;deal;run;any;stop;", 0, -1);
         due.seasonsFault("day 20;", 0, -1);
+        due.seasonsFault("day 21;", 4, 4);
         due.seasonsFault("day 00020;", 1, 4);
         due.seasonsFault("day;", 2, 3);
+        due.seasonsFault("!", 1, 0);
+        due.seasonsFault("day 1;!", 1, 6);
+        due.seasonsFault("day !", 1, 4);
+        due.seasonsFault("move 0 !", 1, 7);
+        due.seasonsFault("when !", 1, 5);
+        due.seasonsFault("when home !", 1, 10);
+        due.seasonsFault("when home hearts !", 1, 17);
+        due.seasonsFault("when home hearts = !", 1, 19);
         due.seasonsFault("ranks 3;", 2, 0);
         due.seasonsFault("home hearts > 1;", 2, 0);
         due.seasonsFault("loop 99;end;", 0, -1);
