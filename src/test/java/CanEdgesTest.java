@@ -97,6 +97,7 @@ public final class CanEdgesTest {
         edge.refused(8, "moveAt", -1);
         edge.refused(8, "moveAt", LEAST);
         edge.refused(8, "moveAt", MOST);
+        manyMoves();
         edge.in(Edge.of("suit a;row a 1;row;"));
         edge.asks(1, "moveAt", 0);
         edge.asks(7, "moveAt", 1);
@@ -106,6 +107,24 @@ public final class CanEdgesTest {
         edge.in(WaterPatience::new);
         edge.refused(8, "moveAt", 0);
         edge.refused(8, "moveAt", -1);
+    }
+
+    /** Two 2s and two 1s, each of which may come home or to one of three empty rows, the 1s onto the 2s, too. */
+    private static void manyMoves() {
+        edge.in(() -> {
+            WaterPatience x = Due.with("law 1;suit a;suit b;suit c;suit d;row a 2 a 1;row b 2 b 1;row c 1;row;row;row;stock d 1;");
+            x.move(0, 7);
+            x.move(1, 7);
+            x.deal();
+            return x;
+        });
+        int[] want = {3, 4, 5, 7, 13, 14, 15, 17, 20, 21, 23, 24, 25, 27, 60, 61, 63, 64, 65, 67};
+        edge.asks(20, "moves");
+        for (int k = 0; k < 20; k++) {
+            edge.asks(want[k], "moveAt", k);
+        }
+        edge.refused(8, "moveAt", 20);
+        edge.asks(4, "yields", 3, 2);
     }
 
     private static void promise32() {
@@ -176,6 +195,17 @@ public final class CanEdgesTest {
             return x;
         });
         next(0, 5, 8, 0);
+        // behind a 6 comes no b 1, though its number is the next one
+        edge.in(() -> {
+            WaterPatience x = Due.with("ranks 6;suit a;suit b;row b 2 a 6 a 5 a 4 a 3 a 2 a 1;row b 1 b 3;");
+            x.run();
+            return x;
+        });
+        for (String call : new String[] {"next", "nextAt", "over"}) {
+            edge.refused(8, call, 0);
+        }
+        next(1, 6, 1, 1);
+        edge.asks(1, "easiest");
     }
 
     private static void next(int suit, int card, int place, int over) {

@@ -236,6 +236,14 @@ public final class DoneEdgesTest {
             edge.on(all, -1, "deal");
         }
         edge.on(all, 24, "many", 7);
+        WaterPatience row = Due.with("ranks 6;suit a;suit b;suit c;suit d;row;stock a 1 a 2 a 3 a 4 a 5 a 6 b 2 b 3 b 4 b 5 "
+                + "b 6 c 1 c 2 c 3 c 4 c 5 c 6 d 1 d 2 d 3 d 4 d 5 d 6 b 1;");
+        for (int k = 0; k < 24; k++) {
+            row.deal();
+        }
+        edge.on(row, 6, "move", 6, 0);
+        edge.on(row, 23, "topOf", 6);
+        edge.on(row, 6, "move", 0, 7);
     }
 
     private static void promise23() {
@@ -249,6 +257,7 @@ public final class DoneEdgesTest {
         WaterPatience x = edge.gives(24, "run");
         edge.on(x, 24, "many", 9);
         edge.on(x, 0, "run");
+        waterOfRuns();
         edge.says("as long as some top CARD (of ROWS, the WASTE) can come HOME, it does");
         WaterPatience y = Due.with("suit a;suit b;row a 3;row b 1;stock a 4 a 2 a 1;");
         edge.on(y, 1, "run");
@@ -259,6 +268,21 @@ public final class DoneEdgesTest {
         edge.on(y, 4, "run");
         edge.on(y, 0, "many", 8);
         edge.on(y, 0, "many", 10);
+    }
+
+    /** A RUN waters by what comes HOME by it, and not by what was there already. */
+    private static void waterOfRuns() {
+        edge.says("What comes HOME waters each FIELD of its SUIT");
+        WaterPatience x = Due.with("suit a;suit b;row a 3 a 2 a 1;row b 2;field f of a dries 0 water 0;"
+                + "field g of b dries 0 water 20 high 10;");
+        edge.on(x, 0, "move", 0, 7);
+        edge.on(x, 1, "field", 0, 2);
+        edge.on(x, 2, "run");
+        edge.on(x, 6, "field", 0, 2);
+        edge.on(x, 0, "run");
+        edge.on(x, 6, "field", 0, 2);
+        edge.on(x, 20, "field", 1, 2);
+        edge.on(x, 0, "field", 1, 4);
     }
 
     private static void promise24() {

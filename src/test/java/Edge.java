@@ -132,7 +132,10 @@ final class Edge {
         same(Look.withoutFault(x), Look.withoutFault(untouched), told(call, a));
     }
 
-    /** A call that is refused: NONE or false, this STATUS, and all else stays as it was. */
+    /**
+     * "A call with another STATUS than 0 gives NONE, or false, and changes nothing but STATUS": all that can be seen of
+     * the object is compared with another one that was made likewise and did not get the call.
+     */
     void refused(int status, String call, long... a) {
         WaterPatience x = maker.get();
         refusedOn(x, status, call, a);
@@ -239,7 +242,7 @@ final class Edge {
         x.rain(2, 5);
         x.mark();
         x.meanWets(0, 2, 7);
-        Due.seasons(x, "any; when stuck; deal; end; day 2; any;");
+        Due.seasons(x, "any; when stuck; deal; end; day 1; any;");
         x.rule(1);
         return x;
     }

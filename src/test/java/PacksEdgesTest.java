@@ -74,7 +74,7 @@ public final class PacksEdgesTest {
         edge.is("the most: 1 to 6", most, 21);
     }
 
-    private static final int[][] WRONG_SEEDS = {{-1, 1}, {-1, 50}, {10000, 1}, {0, 0}, {0, -1}, {0, 51}, {9999, 2}, {9951, 50},
+    private static final int[][] WRONG_SEEDS = {{-1, 1}, {-1, 50}, {10000, 1}, {0, 0}, {5, 0}, {9999, 0}, {0, -1}, {5, -1}, {0, 51}, {9999, 2}, {9951, 50},
         {9950, 51}, {LEAST, 1}, {MOST, 1}, {0, LEAST}, {0, MOST}, {MOST, MOST}, {LEAST, MOST}};
 
     private static void promise46() {

@@ -179,6 +179,12 @@ public final class PlansEdgesTest {
         couple(0, 1, 0, 100);
         edge.in(Edge.of("suit a;suit b;row;row a 1 b 2;row b 4;"));
         couple(0, 1, 100, 101);
+        edge.in(Edge.of("suit a;suit b;row;row b 3 b 4;row a 1 b 2;"));
+        couple(0, 1, 101, 200);
+        WaterPatience x = edge.gives(101, "cheatAt", 0, 0);
+        edge.refusedOn(x, 8, "cheatAt", 1, 0);
+        edge.refusedOn(x, 8, "cheatAt", 1, 1);
+        edge.on(x, 200, "cheatAt", 0, 1);
         // each of three couples brings 3, the first of them 1 and 2 by their own row
         edge.in(Edge.of("suit a;suit b;row a 1 a 2;row b 3;row b 4;"));
         couple(0, 3, 0, 1);

@@ -148,6 +148,7 @@ public final class SeasonsEdgesTest {
             int row = (seed * 2971 + 10711) % 65536 / 8 % 3;
             edge.is("a 2 by seed " + seed, x.length(row), 2);
         }
+        manyDraws();
         edge.says("of all MOVES that can be, in order (by the PLACE from where, then where to), one by a draw by how many "
                 + "they are.");
         WaterPatience one = Due.with("suit a;row a 1;", "any;any;");
@@ -164,6 +165,25 @@ public final class SeasonsEdgesTest {
                 at = pick < at ? pick : pick + 1;
             }
             edge.is("where a 2 lies by seed " + seed, x.length(at), 1);
+        }
+    }
+
+    /** One card goes about six rows; by many draws s comes to all parts of what 65,536 leaves. */
+    private static void manyDraws() {
+        edge.says("Draws: s, at first the seed, becomes what is left of s times 2,971 and 10,711 by 65,536");
+        for (int seed : new int[] {0, 1, 22, 4711, 9998, 9999}) {
+            for (int draws : new int[] {1, 2, 98, 99}) {
+                WaterPatience x = Due.with("suit a;row a 2;row;row;row;row;row;", "loop " + draws + ";any;end;");
+                edge.on(x, draws + 1, "live", seed);
+                long s = seed;
+                int at = 0;
+                for (int i = 0; i < draws; i++) {
+                    s = (s * 2971 + 10711) % 65536;
+                    int pick = (int) (s / 8 % 5);
+                    at = pick < at ? pick : pick + 1;
+                }
+                edge.is("where a 2 lies by seed " + seed + " and " + draws + " draws", x.length(at), 1);
+            }
         }
     }
 
@@ -229,11 +249,27 @@ public final class SeasonsEdgesTest {
         edge.on(edge.gives(1 + 1 + 2 + 1, "live", 0), 2, "many", 6);
         edge.in(Edge.of(FIELDS, "loop 3;when home a > 0;day 1;end;end;"));
         edge.on(edge.gives(4, "live", 0), 0, "many", 6);
+        stoppedWithin();
         WaterPatience again = Due.with(FIELDS, "loop 2;day 1;end;");
         for (int times = 1; times <= 3; times++) {
             edge.on(again, 3, "live", 0);
             edge.on(again, 2 * times, "many", 6);
         }
+    }
+
+    /** What a loop had left to do when it was stopped is nothing to what is lived then. */
+    private static void stoppedWithin() {
+        edge.says("LIVED by a seed (0 to 9,999): all is as it is then.");
+        WaterPatience x = Due.with(FIELDS, "loop 9;day 1;stop;end;");
+        edge.on(x, 3, "live", 0);
+        edge.on(x, 3, "live", 0);
+        edge.on(x, 2, "many", 6);
+        Due.seasons(x, "when stuck;day 1;end;");
+        edge.on(x, 2, "live", 0);
+        edge.on(x, 3, "many", 6);
+        Due.seasons(x, "loop 2;day 1;end;");
+        edge.on(x, 3, "live", 0);
+        edge.on(x, 5, "many", 6);
     }
 
     private static void threeHundred() {
@@ -300,6 +336,22 @@ public final class SeasonsEdgesTest {
         lived(x, want);
         Due.valley(x, "suit a;");
         lived(x, want);
+        WaterPatience twice = Due.with("suit a;row a 2 a 1;", "run;day 3;deal;");
+        edge.on(twice, 3, "live", 0);
+        lived(twice, 1, 3, 2, 0, 0);
+        edge.on(twice, 3, "live", 0);
+        lived(twice, 2, 3, 0, 0, 0);
+        Due.seasons(twice, "loop 99;deal;deal;deal;deal;end;");
+        edge.on(twice, 300, "live", 0);
+        lived(twice, 299, 0, 0, 0, 1);
+        Due.seasons(twice, "stop;");
+        edge.on(twice, 1, "live", 0);
+        lived(twice, 0, 0, 0, 0, 0);
+        WaterPatience moved = Due.with("suit a;row a 1;row;", "move 0 1;");
+        edge.on(moved, 1, "live", 0);
+        lived(moved, 0, 0, 0, 1, 0);
+        edge.on(moved, 1, "live", 0);
+        lived(moved, 1, 0, 0, 0, 0);
         WaterPatience trial = Due.with(FIELDS, "day 1;");
         trial.mean(0, 1);
         edge.refusedOn(trial, 8, "lived", 0);
@@ -324,7 +376,7 @@ public final class SeasonsEdgesTest {
             }
             edge.tells(sum / divisor, fine[1] / divisor, "mean", fine[0], fine[1]);
         }
-        int[][] wrong = {{-1, 1}, {10000, 1}, {0, 0}, {0, -1}, {0, 21}, {9999, 2}, {9981, 20}, {9980, 21}, {LEAST, 1},
+        int[][] wrong = {{-1, 1}, {10000, 1}, {0, 0}, {5, 0}, {9999, 0}, {0, -1}, {5, -1}, {0, 21}, {9999, 2}, {9981, 20}, {9980, 21}, {LEAST, 1},
             {MOST, 1}, {0, LEAST}, {0, MOST}, {MOST, MOST}, {LEAST, MOST}};
         for (int[] w : wrong) {
             edge.refused(5, "mean", w[0], w[1]);
@@ -335,10 +387,29 @@ public final class SeasonsEdgesTest {
         for (int[] w : wrong) {
             edge.refused(5, "mean", w[0], w[1]);
         }
+        fewerFields();
         edge.in(Edge.of("suit a;", "day 1;"));
         edge.tells(0, 1, "mean", 0, 20);
         edge.in(Edge.of(FIELDS, "day 9;"));
         edge.tells(100, 1, "mean", 0, 20);
+    }
+
+    /** The fields of a valley ahead are none of these. */
+    private static void fewerFields() {
+        WaterPatience x = Edge.full();
+        x.mark();
+        Due.seasons(x, "day 1;");
+        edge.on(x, 1, "mean", 0, 1);
+        edge.is("10 less 0 to 5", x.top(), 60 - 15);
+        Due.valley(x, FIELDS);
+        Due.seasons(x, "day 1;");
+        edge.on(x, 1, "mean", 0, 1);
+        edge.is("10, and 99 less 1", x.top(), 108);
+        Due.valley(x, "suit a;");
+        x.seasons(0);
+        edge.on(x, 1, "mean", 0, 1);
+        edge.is("no fields", x.top(), 0);
+        edge.is("by 1", x.bottom(), 1);
     }
 
     private static void promise54() {

@@ -318,5 +318,20 @@ public final class SeasonsTextEdgesTest {
         edge.on(x, 0, "seasons", 0);
         edge.on(x, 0, "live", 0);
         edge.on(x, 12, "many", 6);
+        for (String broken : new String[] {"loop 1;", "loop 1;loop 1;loop 1;", Due.times("any;", 31), "loop 1;loop 1;!"}) {
+            edge.refusedOn(fed(x, broken), 10, "seasons", broken.length());
+            edge.is("one step", Due.seasons(x, "day 1;"), 1);
+            edge.refusedOn(fed(x, broken), 10, "seasons", broken.length());
+            edge.is("three within", Due.seasons(x, "loop 1;loop 1;loop 1;end;end;end;"), 3);
+            edge.refusedOn(fed(x, broken), 10, "seasons", broken.length());
+            edge.is("thirty", Due.seasons(x, Due.times("any;", 30)), 30);
+            edge.refusedOn(fed(x, broken), 10, "seasons", broken.length());
+            edge.refusedOn(fed(x, "end;"), 10, "seasons", 4);
+        }
+    }
+
+    private static WaterPatience fed(WaterPatience x, String text) {
+        Due.tape(x, text);
+        return x;
     }
 }

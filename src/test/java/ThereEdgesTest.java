@@ -56,11 +56,13 @@ public final class ThereEdgesTest {
         WaterPatience x = Due.with("ranks 6;suit a;suit b;suit c;suit d;");
         x.shuffle(0);
         edge.on(x, 24, "many", 7);
+        int last = x.stockAt(23);
         for (int i = 0; i < 24; i++) {
             x.deal();
         }
         edge.on(x, 0, "many", 7);
         edge.on(x, 24, "many", 8);
+        edge.on(x, last, "topOf", 6);
         WaterPatience home = Due.with("ranks 6;suit a;suit b;row a 6 a 5 a 4 a 3 a 2 a 1;row b 6 b 5 b 4 b 3 b 2 b 1;");
         edge.on(home, 12, "many", 10);
         home.run();

@@ -7,6 +7,7 @@ public final class TraysEdgesTest {
     public static void main(String[] args) {
         promise1();
         promise2();
+        lastCall();
         promises3and4();
         promise5();
         sorts();
@@ -72,6 +73,19 @@ public final class TraysEdgesTest {
         }
         edge.is("feed that gives NONE", x.feed(0, 0, 0, 0, 0), -1);
         edge.is("behind that", x.status(), 1);
+    }
+
+    private static void lastCall() {
+        edge.says("An object is used for at most 512 calls after it has been made");
+        WaterPatience x = new WaterPatience();
+        for (int calls = 0; calls < 508; calls += 2) {
+            x.mark();
+            x.back();
+        }
+        edge.is("call 509", x.mark(), 1);
+        edge.is("call 510", x.tray(0, 3, 60) ? 1 : 0, 1);
+        edge.is("call 511", x.back(), 0);
+        edge.is("call 512", x.read(0, 59), 0);
     }
 
     private static void promises3and4() {

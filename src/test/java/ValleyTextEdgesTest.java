@@ -157,6 +157,11 @@ public final class ValleyTextEdgesTest {
         edge.valley("suit a;suit z;suit aaaaaaaa;suit zzzzzzzz;");
         edge.valley("suit abcdefgh;field abcdefgi of abcdefgh dries 0;row abcdefgh 1;stock abcdefgh 2;");
         edge.valley("suit abcdefgh;suit abcdefgi;suit bbcdefgh;suit abcdefg;");
+        for (char letter = 'a'; letter <= 'z'; letter++) {
+            String one = String.valueOf(letter);
+            edge.on(edge.valley("suit " + one + ";suit " + one + one + ";suit a" + one + "a;suit " + Due.times(one, 8) + ";"),
+                    4, "many", 1);
+        }
         edge.says("a WORD of 9 letters and more where a NAME must stand");
         for (int more = 1; more <= 30; more++) {
             edge.valleyFault(2, "suit ^abcdefgh" + Due.times("z", more) + ";");
@@ -468,11 +473,36 @@ public final class ValleyTextEdgesTest {
         edge.on(x, 5, "read", 0, 0);
         edge.on(x, 1, "back");
         edge.on(x, 2, "many", 1);
+        nothingIsLeft();
         WaterPatience same = Edge.rich();
         Due.valley(same, Due.VALLEY);
         WaterPatience fresh = Due.with(Due.VALLEY);
         for (int what = 0; what <= 13; what++) {
             edge.is("many(" + what + ") of the same valley", same.many(what), fresh.many(what));
+        }
+    }
+
+    /** Neither of a valley that was taken, nor of one with a fault, nor of what was lived on trial. */
+    private static void nothingIsLeft() {
+        String all = "ranks 6;law 2;redeals 9;suit a red;suit b;row a 1;row a 2;stock a 3;field f of a dries 20;";
+        WaterPatience x = new WaterPatience();
+        int[] none = {4, 0, 0, 0, 0, 0, 0, 0, 0, 0, 0, 0, 0, 0};
+        for (String text : new String[] {all, all + "!", "row;ranks 1;", "law 2;law 2;", all}) {
+            Due.valley(x, text);
+            if (x.status() == 0) {
+                x.day(9);
+                Due.seasons(x, "run;deal;day 20;");
+                x.mean(0, 1);
+            }
+            edge.is("no text", Due.valley(x, ""), 0);
+            for (int what = 0; what <= 13; what++) {
+                edge.on(x, none[what], "many", what);
+            }
+            x.valley(0);
+            edge.is("the same again", Due.valley(x, all), 1);
+            edge.on(x, 0, "field", 0, 4);
+            edge.on(x, 10, "field", 0, 2);
+            edge.on(x, 0, "many", 6);
         }
     }
 
