@@ -101,7 +101,7 @@ public final class DoneEdgesTest {
     }
 
     private static void laws() {
-        edge.says("by LAW: its RANK is one less than that of the ROW's top CARD, and (LAW 0) they are of unlike colours, "
+        edge.says("or by LAW: its RANK is one less than that of the ROW's top CARD, and (LAW 0) they are of unlike colours, "
                 + "(LAW 2) of the same SUIT, (LAW 1) of any");
         // from row 0 to a card of the same suit, of the same colour, of the other colour
         boolean[][] may = {{false, false, true}, {true, true, true}, {true, false, false}};

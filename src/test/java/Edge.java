@@ -19,7 +19,7 @@ final class Edge {
     static final int NONE = WaterPatience.NONE;
 
     /** Each call's STATUSES other than 0, as its promise tells them. */
-    private static final String[] STATUSES = {"tray 1 5 6", "write 1 3 4", "read 1 3 4", "pour 1 3 11 6 4", "valley 5 10",
+    static final String[] STATUSES = {"tray 1 5 6", "write 1 3 4", "read 1 3 4", "pour 1 3 11 6 4", "valley 5 10",
         "seasons 5 10", "many 5", "card 2 8", "length 2", "topOf 2 8", "stockAt 8", "homeOf 2", "field 2 5",
         "copyRow 1 2 3 4", "move 2 9", "deal 9", "day 5 7", "rain 2 5 9", "rule 5", "sow 2", "shuffle 5", "canMove 2",
         "moveAt 8", "runWater 2", "next 2 8", "nextAt 2 8", "over 2 8", "easiest 8", "wilts 2 8", "thirstiest 8",

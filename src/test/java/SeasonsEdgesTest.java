@@ -149,7 +149,7 @@ public final class SeasonsEdgesTest {
             edge.is("a 2 by seed " + seed, x.length(row), 2);
         }
         manyDraws();
-        edge.says("of all MOVES that can be, in order (by the PLACE from where, then where to), one by a draw by how many "
+        edge.says("any: of all MOVES that can be, in order (by the PLACE from where, then where to), one by a draw by how many "
                 + "they are.");
         WaterPatience one = Due.with("suit a;row a 1;", "any;any;");
         edge.on(one, 2, "live", 9999);

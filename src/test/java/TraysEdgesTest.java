@@ -76,7 +76,7 @@ public final class TraysEdgesTest {
     }
 
     private static void lastCall() {
-        edge.says("An object is used for at most 512 calls after it has been made");
+        edge.says("An object is used for at most 512 calls after it has been made; what later calls answer is free.");
         WaterPatience x = new WaterPatience();
         for (int calls = 0; calls < 508; calls += 2) {
             x.mark();
@@ -178,7 +178,7 @@ public final class TraysEdgesTest {
 
     /** The last number of each sort that is kept as it is, and the first that is cut. */
     private static void sorts() {
-        edge.says("rows of numbers of 8 bits (sort 0), 16 (1), 32 (2) or 64 (3), with sign; what is written is cut to these.");
+        edge.says("or rows of numbers of 8 bits (sort 0), 16 (1), 32 (2) or 64 (3), with sign; what is written is cut to these.");
         int[] bits = {8, 16, 32, 64};
         for (int sort = 0; sort <= 3; sort++) {
             long high = Long.MAX_VALUE >> 64 - bits[sort];
